@@ -850,17 +850,14 @@ public final class FallCards {
             super(number, weight, wide, clip);
         }
 
-        @Override
         int kind() {
             return 1;
         }
 
-        @Override
         int turnTold(Flight f, int cosine, int[] laws) {
             return 0;
         }
 
-        @Override
         int turns(int x, Trace t) {
             t.began(20);
             return super.turns(x, t) - weight;
@@ -872,24 +869,20 @@ public final class FallCards {
             super(number, weight, wide, clip);
         }
 
-        @Override
         int kind() {
             return 2;
         }
 
-        @Override
         int turnTold(Flight f, int cosine, int[] laws) {
             int told = super.turnTold(f, cosine, laws);
             return f.slant >= 10 && f.slant <= 26 ? -told : told;
         }
 
-        @Override
         int falls(int x, Trace t) {
             t.began(30);
             return super.falls(x, t) * 3;
         }
 
-        @Override
         int tells(int x, Trace t) {
             t.began(31);
             return super.tells(x, t) + shares(number, t);
@@ -901,17 +894,14 @@ public final class FallCards {
             super(number, weight, wide, clip);
         }
 
-        @Override
         int kind() {
             return 3;
         }
 
-        @Override
         int turnTold(Flight f, int cosine, int[] laws) {
             return super.turnTold(f, cosine, laws) + (f.turn >= 0 ? 1 : -1);
         }
 
-        @Override
         int turns(int x, Trace t) {
             t.began(40);
             return 0 - super.turns(x, t);
@@ -923,12 +913,10 @@ public final class FallCards {
             super(number, weight, wide, clip);
         }
 
-        @Override
         int kind() {
             return 4;
         }
 
-        @Override
         int turnTold(Flight f, int cosine, int[] laws) {
             if (f.slant == 0) {
                 return 0;
@@ -936,13 +924,11 @@ public final class FallCards {
             return f.slant <= 18 ? -1 : 1;
         }
 
-        @Override
         int shares(int x, Trace t) {
             t.began(50);
             return super.shares(x + 2, t) ^ 1;
         }
 
-        @Override
         int falls(int x, Trace t) {
             t.began(51);
             return super.falls(x, t) - number;
@@ -954,23 +940,19 @@ public final class FallCards {
             super(number, weight, wide, clip);
         }
 
-        @Override
         int kind() {
             return 5;
         }
 
-        @Override
         int downTold(int down) {
             return down / 2;
         }
 
-        @Override
         int tells(int x, Trace t) {
             t.began(60);
             return super.tells(x, t) * 2;
         }
 
-        @Override
         int shares(int x, Trace t) {
             t.began(61);
             return super.shares(x, t) + falls(weight, t);

@@ -7,6 +7,7 @@ public final class CardsTest {
         feed();
         cardsRead();
         faults();
+        nothingOfAnEarlierTape();
         faultChangesNothing();
         successClears();
         card();
@@ -145,7 +146,19 @@ public final class CardsTest {
         String six = "fall 1 wide 1;fall 1 wide 1;fall 1 wide 1;fall 1 wide 1;fall 1 wide 1;fall 1 wide 1;";
         fault(six + " winged", 85);
         fault(six + " lift 3; fall", 93);
+        due.is("a fifth N of 1", Due.read(new FallCards(), "hand 0 0 0 0 1;"), 0);
         due.is("six and a law", Due.read(new FallCards(), six + " lift 3; "), 6);
+    }
+
+    /** What an earlier tape left behind the end of this one is not read. */
+    private static void nothingOfAnEarlierTape() {
+        String[][] tapes = {{"fall 3 wide 2;", "fall 3 wide 2"}, {"falls 3;", "fall"}, {"lift 123;", "lift 12"},
+            {"fall 3 wide 2 clip 3;", "fall 3 wide 2 clip"}};
+        for (String[] t : tapes) {
+            FallCards x = new FallCards();
+            Due.read(x, t[0]);
+            due.is("'" + t[1] + "' behind '" + t[0] + "'", Due.read(x, t[1]), -100 - t[1].length());
+        }
     }
 
     private static void faultChangesNothing() {

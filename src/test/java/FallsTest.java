@@ -101,6 +101,9 @@ public final class FallsTest {
         FallCards f = with(0, 8);
         // The 8th tick makes the round: it is even, if k * w by 8, of k from 1 to 7, are 36 together: 35 with 11, 40 with 12.
         due.is("turning line", f.line(0, 36, 28, 1, 2), 1);
+        // Three ticks ahead of the round fall 12, 24 and 37 with weight 99, 12, 24 and 36 with 98.
+        due.is("the greatest weight", f.line(0, 73, 32, 1, 0), 99);
+        due.is("none is heavy enough", f.line(0, 74, 32, 1, 0), -3);
         due.is("even line", f.line(0, 36, 28, 1, 0), 12);
     }
 
@@ -121,6 +124,15 @@ public final class FallsTest {
         due.is("landing in it counts", x.parted(0, 15, 0, 0, 0), 5);
         due.is("landed ahead of it", x.parted(0, 10, 0, 0, 0), -3);
         due.is("35 and 0", x.parted(0, 9999, 35, 0, 0), 5);
+        FallCards slow = with(1, 1);
+        slow.set(0, 1);
+        slow.letGo(0, 9999, 1, 0);
+        slow.tick(399);
+        int ahead = slow.air(2);
+        slow.tick(1);
+        due.is("it goes on across", slow.air(2) > ahead ? 1 : 0, 1);
+        due.is("parted by the 400th tick", slow.parted(0, 9999, 0, 0, ahead), 400);
+        due.is("not parted in 400", slow.parted(0, 9999, 0, 0, slow.air(2)), -3);
         due.is("far 9999", x.parted(0, 10, 0, 0, 9999), -3);
     }
 

@@ -31,11 +31,13 @@ public final class HostTest {
             due.is("the last", x.item(sort, sort, 39), 0);
             due.is("behind the last", x.item(sort, sort, 40), -12);
             x.put(sort, 39, 7);
+            x.put(sort, 0, 7);
             due.is("refused", x.sheet(sort, sort, -1), -14);
             due.is("refused", x.sheet(sort, sort, 41), -1);
             due.is("it stays", x.item(sort, sort, 39), 7);
             due.is("again", x.sheet(sort, sort, 40), 1);
             due.is("all 0", x.item(sort, sort, 39), 0);
+            due.is("all 0, the first too", x.item(sort, sort, 0), 0);
         }
         due.is("0 items", x.sheet(0, 1, 0), 1);
         due.is("none to see", x.item(0, 1, 0), -12);
@@ -201,6 +203,7 @@ public final class HostTest {
         act(righted, 0, 7, 7, 51, 10);
         act(righted, 1, 7, 14 - 5, 20, 11, 51, 10);
         act(righted, 2, 7, 3 ^ 1, 50, 12);
+        act(righted, 2, 6, 2 ^ 1, 50, 12);
         act(righted, 2, Integer.MAX_VALUE, (Integer.MIN_VALUE + 1) / 3 ^ 1, 50, 12);
         act(righted, 3, 7, 9 ^ 5, 13, 20, 11, 51, 10);
         FallCards winged = holding(5, 2, 5);

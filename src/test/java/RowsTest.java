@@ -51,6 +51,8 @@ public final class RowsTest {
             }
         }
         due.is("many rows", x.many(1), 3);
+        due.is("alter row 2", x.alterRow(2, 1, 5), 94);
+        due.is("row 2 altered", x.row(2, 1), 5);
         due.is("nothing changes", x.air(1), 0);
         due.is("nothing changes", x.air(3), 100);
         x.tick(2);
