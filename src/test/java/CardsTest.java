@@ -166,9 +166,9 @@ public final class CardsTest {
         x.card(2, 3, 4, 1);
         x.letGo(0, 50, 3, 1);
         x.prove(3);
-        String ahead = Due.look(x);
+        String ahead = Look.all(x);
         due.is("a fault behind much", Due.read(x, "lift 1; hand 1 1 1 1 1; fall 3 wide 2; winged 2 wide 2; drag;"), -160);
-        due.is("a fault changes nothing", Due.look(x).equals(ahead) ? 1 : 0, 1);
+        due.is("a fault changes nothing", Look.all(x).equals(ahead) ? 1 : 0, 1);
     }
 
     private static void successClears() {

@@ -1,15 +1,33 @@
 /** Counts the answers that are not due. */
 final class Due {
+    private static final int SHOWN = 40;
+    private String sentence = "";
     private int wrong;
     private int asked;
+
+    /** The sentence of the document to which the next answers must hold. */
+    void says(String text) {
+        sentence = text;
+    }
 
     void is(String call, long got, long want) {
         asked++;
         if (got != want) {
-            wrong++;
+            tell(call, Long.toString(got), Long.toString(want));
         }
-        if (got != want && wrong <= 40) {
-            System.out.println(call + " answered " + got + ", due is " + want);
+    }
+
+    void same(String call, String got, String want) {
+        asked++;
+        if (!got.equals(want)) {
+            tell(call, got, want);
+        }
+    }
+
+    private void tell(String call, String got, String want) {
+        wrong++;
+        if (wrong <= SHOWN) {
+            System.out.println((sentence.isEmpty() ? "" : "[" + sentence + "] ") + call + " answered " + got + ", due is " + want);
         }
     }
 
@@ -43,52 +61,5 @@ final class Due {
             x.set(law, 0);
         }
         return x;
-    }
-
-    /** All that can be asked without a change. */
-    static String look(FallCards x) {
-        StringBuilder b = new StringBuilder();
-        for (int i = 0; i < 5; i++) {
-            b.append(x.many(i)).append(' ');
-        }
-        for (int i = 0; i < 6; i++) {
-            for (int what = 0; what < 4; what++) {
-                b.append(x.cardOf(i, what)).append(' ');
-            }
-            int law = x.set(i, 5);
-            x.set(i, law);
-            b.append("law ").append(law).append(' ');
-        }
-        for (int i = 0; i < 5; i++) {
-            int weight = x.hand(i, 9);
-            x.hand(i, weight);
-            b.append("hand ").append(weight).append(' ');
-        }
-        for (int what = 0; what < 9; what++) {
-            b.append(x.air(what)).append(' ');
-        }
-        int z = x.seed(0);
-        x.seed(z);
-        b.append("z ").append(z).append(' ');
-        for (int i = 0; i < 20; i++) {
-            for (int what = 0; what < 3; what++) {
-                b.append(x.row(i, what)).append(' ');
-            }
-        }
-        for (int s = 0; s < 4; s++) {
-            for (int sort = 0; sort < 4; sort++) {
-                for (int i = 0; i <= 40; i++) {
-                    b.append(x.item(s, sort, i)).append(' ');
-                }
-                b.append(x.taken(s, 10 + sort)).append(' ');
-            }
-            for (int kind = 0; kind < 6; kind++) {
-                b.append(x.taken(s, kind)).append(' ');
-            }
-        }
-        for (int i = 0; i < 30; i++) {
-            b.append(x.trace(i)).append(' ');
-        }
-        return b.toString();
     }
 }

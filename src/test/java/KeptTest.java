@@ -13,9 +13,9 @@ public final class KeptTest {
     private static void nothingKept() {
         FallCards x = new FallCards();
         x.card(0, 1, 1, 0);
-        String ahead = Due.look(x);
+        String ahead = Look.all(x);
         due.is("nothing is kept", x.again(), -3);
-        due.is("nothing changes", Due.look(x).equals(ahead) ? 1 : 0, 1);
+        due.is("nothing changes", Look.all(x).equals(ahead) ? 1 : 0, 1);
     }
 
     private static FallCards begun() {
@@ -36,21 +36,21 @@ public final class KeptTest {
 
     private static void wholeStateComesBack() {
         FallCards x = begun();
-        String ahead = Due.look(x);
+        String ahead = Look.world(x);
         due.is("keep", x.keep(), 1);
-        due.is("keep changes nothing", Due.look(x).equals(ahead) ? 1 : 0, 1);
+        due.is("keep changes nothing", Look.world(x).equals(ahead) ? 1 : 0, 1);
         for (int i = 0; i < 2; i++) {
             spoil(x);
             due.is("again", x.again(), 2);
-            due.is("all of it, " + i, Due.look(x).equals(ahead) ? 1 : 0, 1);
+            due.is("all of it, " + i, Look.world(x).equals(ahead) ? 1 : 0, 1);
         }
         x.tick(5);
         x.card(2, 2, 2, 2);
-        String later = Due.look(x);
+        String later = Look.world(x);
         due.is("keep later", x.keep(), 1);
         spoil(x);
         due.is("the latest", x.again(), 3);
-        due.is("the latest whole", Due.look(x).equals(later) ? 1 : 0, 1);
+        due.is("the latest whole", Look.world(x).equals(later) ? 1 : 0, 1);
         FallCards y = begun();
         y.tick(5);
         x.tick(4);

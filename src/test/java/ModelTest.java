@@ -35,7 +35,8 @@ public final class ModelTest {
         }
         m.z = random.nextInt();
         x.seed(m.z);
-        for (int i = 0; i < 6; i++) {
+        // Some 130 calls each: an object is good for 512.
+        for (int i = 0; i < 3; i++) {
             falls(x, m, run);
         }
     }
