@@ -17,6 +17,7 @@ public final class AirBoundsTest {
         gustState();
         pacesHeld();
         quotientsCut();
+        divisors();
         cosineWithoutSign();
         wingedHalved();
         paceAhead();
@@ -313,6 +314,65 @@ public final class AirBoundsTest {
                 due.is("clip " + clip + " by wide " + wide, x.air(TURN), clip < 0 ? -size : size);
             }
         }
+    }
+
+    /** Products that lie just at or just below a whole quotient, so that a divisor 1 off would tell another number. */
+    private static void divisors() {
+        due.says("by 1000, by 32, by 64, by 4, by 1024, by 8");
+        for (int way = -1; way <= 1; way += 2) {
+            FallCards lift = blown(steady(1, 9), 0, 5000 * way);
+            lift.set(0, 32);
+            lift.tick(1);
+            due.is("5000 * 1000 by 1000, * 32 by 32", lift.air(SIDE), 5000 * way);
+            FallCards drag = blown(steady(1, 9), 6400 * way, 6400 * way);
+            drag.set(1, 63);
+            drag.tick(1);
+            due.is("6400 less 6400 * 63 by 64", drag.air(SIDE), 100 * way);
+            due.is("down likewise, and 1", drag.air(DOWN), 100 * way + 1);
+            FallCards pace = blown(steady(8, 0), 9999 * way, 9991 * way);
+            pace.tick(1);
+            due.is("9999 by 8", pace.air(2), 1249 * way);
+            due.is("9991 and 8 by 8", pace.air(3), 9999 - (9991 * way + 8) / 8);
+        }
+        // Slant, edge and edge times cosine by 1000: the product lacks so little that by 999 it would be 1 more.
+        int[][] edges = {{3, 15, 12}, {3, 60, 51}, {4, 30, 22}, {4, 60, 45}, {7, 38, 12}};
+        for (int[] e : edges) {
+            FallCards x = blown(steady(1, e[0]), 0, 6400);
+            x.set(2, e[1]);
+            x.tick(1);
+            due.is("edge " + e[1] + " at " + e[0], x.air(DOWN), 6401 - 100 * e[2]);
+        }
+        // Slant, side, spin and the turn: as near, by 1000 and by 1024.
+        int[][] spins = {{1, 67, 63, 3}, {3, 60, 40, 1}, {4, 107, 63, 4}, {5, 129, 62, 4}, {7, 301, 40, 3}, {0, 31, 33, 0}, {0, 62, 33, 1},
+            {0, 66, 62, 3}, {0, 128, 8, 1}, {0, 128, 16, 2}};
+        for (int[] p : spins) {
+            FallCards x = Due.plain();
+            x.set(3, p[2]);
+            x.card(0, 1, 1, 0);
+            x.letGo(0, 9999, p[0], 0);
+            x.gust(p[1], 0);
+            x.tick(1);
+            due.is("side " + p[1] + " at " + p[0] + " by spin " + p[2], x.air(TURN), p[3]);
+        }
+        for (int damp = 0; damp < 64; damp++) {
+            for (int turn = 1; turn <= 9; turn++) {
+                int left = turn;
+                while ((turn - left + 1) * 64 <= turn * damp) {
+                    left--;
+                }
+                due.is("damp " + damp + " of " + turn, damped(damp, turn), left);
+                due.is("damp " + damp + " of -" + turn, damped(damp, -turn), -left);
+            }
+        }
+    }
+
+    private static int damped(int damp, int turn) {
+        FallCards x = Due.plain();
+        x.set(4, damp);
+        x.card(0, 1, 1, 0);
+        x.letGo(0, 9999, 0, turn);
+        x.tick(1);
+        return x.air(TURN);
     }
 
     private static void cosineWithoutSign() {

@@ -205,8 +205,8 @@ public final class FallsBoundsTest {
         due.says("SQUARE: ACROSS by 100, towards what is less (of -1: -1)");
         // Blown by 8 a tick more each time, across is 1, 3, 6, .. times the way.
         FallCards x = one(1, 8, 0);
+        x.set(5, 0);
         for (int ticks = 1; ticks <= 60; ticks++) {
-            x.set(5, 0);
             int across = -(ticks * (ticks + 1) / 2);
             due.is("across", falls(x, ticks, 0, 0, 1), across);
             due.is("square of " + across, falls(x, ticks, 0, 0, 5), -((99 - across) / 100));
@@ -218,14 +218,14 @@ public final class FallsBoundsTest {
         due.is("square of -1", falls(x, 1, 0, 0, 5), -1);
         FallCards still = one(1, 8, 0);
         due.is("square of 0", falls(still, 1, 0, 0, 5), 0);
-        FallCards y = lifted();
-        due.is("across 99 or less", squareOf(y, 0) == 0 ? 1 : 0, 1);
+        FallCards y = blownTo100();
         due.is("across 100", y.air(2), 100);
-        due.is("square of 100", squareOf(y, 1), 1);
+        due.is("square of 100", squareOf(y, y.air(1)), 1);
+        due.is("square of what is less", squareOf(y, y.air(1) - 1), 0);
     }
 
-    /** Let go so that across is just 100 as it lands: 8 ticks of a wind that was set by hand. */
-    private static FallCards lifted() {
+    /** Blown by 1 a tick more each time, till it is 100 across. */
+    private static FallCards blownTo100() {
         FallCards x = one(1, 8, 0);
         x.set(5, 36);
         x.letGo(0, 9999, 0, 0);
@@ -237,8 +237,7 @@ public final class FallsBoundsTest {
         return x;
     }
 
-    private static int squareOf(FallCards x, int more) {
-        int ticks = x.air(1) - 1 + more;
+    private static int squareOf(FallCards x, int ticks) {
         return x.fall(0, ticks * (ticks + 1) / 2, 0, 0, 5);
     }
 
@@ -319,18 +318,23 @@ public final class FallsBoundsTest {
         FallCards x = lifting();
         due.is("they land in that tick", x.parted(0, 15, 0, 0, 0), 5);
         due.is("they land a tick ahead", x.parted(0, 10, 0, 0, 0), NONE);
-        // Edge brakes at 0 and not at 9: the one with less brake lands sooner, and ends it.
-        FallCards y = Stage.plainSteady();
-        y.set(2, 63);
-        y.set(0, 63);
-        for (int slant : new int[] {8, 9, 26, 27}) {
-            FallCards a = y;
-            int lands = Math.min(a.fall(0, 300, slant, 0, 0), a.fall(0, 300, (slant + 1) % 36, 0, 0));
-            due.is("one lands sooner", a.fall(0, 300, slant, 0, 0) == a.fall(0, 300, (slant + 1) % 36, 0, 0) ? 1 : 0, 0);
-            int far = apart(slant, lands);
-            due.is("parted in the last tick of both, " + slant, far < 1 ? lands : a.parted(0, 300, slant, 0, far - 1) <= lands ? lands : -1,
-                lands);
-            due.is("not later, " + slant, a.parted(0, 300, slant, 0, far), NONE);
+        // Edge brakes the more the farther a slant is from 9 and 27: of two the one that is nearer lands sooner, and ends it.
+        for (int slant : new int[] {7, 8, 9, 10, 25, 26, 27, 28}) {
+            int next = (slant + 1) % 36;
+            FallCards y = braking();
+            int lands = Math.min(y.fall(0, 300, slant, 0, 0), y.fall(0, 300, next, 0, 0));
+            due.is("one lands sooner, " + slant, y.fall(0, 300, slant, 0, 0) == y.fall(0, 300, next, 0, 0) ? 1 : 0, 0);
+            int[] one = acrosses(slant, lands + 1);
+            int[] two = acrosses(next, lands + 1);
+            for (int far = 0; far < 60; far++) {
+                due.is("at " + slant + ", more than " + far, y.parted(0, 300, slant, 0, far), firstApart(one, two, lands, far));
+            }
+            int most = 0;
+            for (int i = 0; i < lands; i++) {
+                most = Math.max(most, Math.abs(one[i] - two[i]));
+            }
+            due.is("just as far, " + slant, y.parted(0, 300, slant, 0, most), NONE);
+            due.is("a bit less, " + slant, most == 0 ? NONE : y.parted(0, 300, slant, 0, most - 1), firstApart(one, two, lands, most - 1));
         }
         due.says("A FALL .. 400 TICKS at most");
         FallCards slow = one(1, 1, 0);
@@ -343,21 +347,24 @@ public final class FallsBoundsTest {
         due.is("by the 401st", slow.parted(0, 9999, 0, 0, slow.air(2)), NONE);
     }
 
-    /** How far apart, at most, they come within so many ticks. */
-    private static int apart(int slant, int ticks) {
-        int most = 0;
-        int[] one = acrosses(slant, ticks);
-        int[] two = acrosses((slant + 1) % 36, ticks);
+    private static int firstApart(int[] one, int[] two, int ticks, int far) {
         for (int i = 0; i < ticks; i++) {
-            most = Math.max(most, Math.abs(one[i] - two[i]));
+            if (Math.abs(one[i] - two[i]) > far) {
+                return i + 1;
+            }
         }
-        return most;
+        return NONE;
     }
 
-    private static int[] acrosses(int slant, int ticks) {
+    private static FallCards braking() {
         FallCards x = Stage.plainSteady();
         x.set(2, 63);
         x.set(0, 63);
+        return x;
+    }
+
+    private static int[] acrosses(int slant, int ticks) {
+        FallCards x = braking();
         x.letGo(0, 300, slant, 0);
         int[] out = new int[ticks];
         for (int i = 0; i < ticks; i++) {
