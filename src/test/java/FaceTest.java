@@ -4,6 +4,8 @@ import java.lang.reflect.Method;
 import java.lang.reflect.Modifier;
 import java.nio.file.Files;
 import java.nio.file.Path;
+import java.util.ArrayList;
+import java.util.List;
 import java.util.Map;
 import java.util.Set;
 import java.util.TreeMap;
@@ -60,8 +62,31 @@ public final class FaceTest {
             due.is(c + " is static and not public", c.getModifiers() & (Modifier.STATIC | Modifier.PUBLIC | Modifier.PROTECTED),
                 Modifier.STATIC);
         }
+        sizes(due);
         words(due);
         due.end("FaceTest");
+    }
+
+    /** Rules 5 and 11: what static fields are, and how much there is of each thing. */
+    private static void sizes(Due due) {
+        List<Class<?>> classes = new ArrayList<>(List.of(FallCards.class.getDeclaredClasses()));
+        classes.add(FallCards.class);
+        due.is("classes, twelve at most: " + classes.size(), classes.size() <= 12 ? 1 : 0, 1);
+        Set<Class<?>> constants = Set.of(int.class, long.class, boolean.class, char.class, String.class, int[].class, long[].class,
+            char[].class, byte[].class);
+        for (Class<?> c : classes) {
+            int fields = 0;
+            for (Field f : c.getDeclaredFields()) {
+                boolean isStatic = Modifier.isStatic(f.getModifiers());
+                fields += isStatic ? 0 : 1;
+                due.is("the static field " + f + " is a constant",
+                    !isStatic || Modifier.isFinal(f.getModifiers()) && constants.contains(f.getType()) ? 1 : 0, 1);
+            }
+            due.is("fields of " + c + ", twenty at most: " + fields, fields <= 20 ? 1 : 0, 1);
+            for (Method m : c.getDeclaredMethods()) {
+                due.is("parameters of " + m + ", seven at most", m.getParameterCount() <= 7 ? 1 : 0, 1);
+            }
+        }
     }
 
     private static void words(Due due) throws Exception {
@@ -73,5 +98,13 @@ public final class FaceTest {
             due.is("'" + m.group() + "' in the code", 1, 0);
         }
         due.is("the code was read", code.contains("class FallCards") ? 1 : 0, 1);
+        Matcher body = Pattern.compile("(?m)^( +)[^ \n][^\n]*\\) \\{\n(?s:.*?)^\\1\\}").matcher(code);
+        int bodies = 0;
+        while (body.find()) {
+            bodies++;
+            String head = body.group().substring(0, body.group().indexOf('\n')).trim();
+            due.is("lines of " + head + ", sixty at most", body.group().split("\n").length <= 60 ? 1 : 0, 1);
+        }
+        due.is("bodies were read", bodies > 100 ? 1 : 0, 1);
     }
 }

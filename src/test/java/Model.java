@@ -8,7 +8,7 @@ final class Model {
     List<int[]> cards = new ArrayList<>();
     int z = 1;
 
-    /** Behind each tick: across, height, slant, turn. */
+    /** Behind each tick: across, height, slant, turn, side, down. */
     static final class Way {
         List<long[]> ticks = new ArrayList<>();
         boolean landed;
@@ -57,32 +57,38 @@ final class Model {
         return v > most ? most : v < -most ? -most : v;
     }
 
+    /** Of a letting go: across, height, slant, turn, side, down. */
+    static long[] letGo(int height, int slant, int turn) {
+        return new long[] {0, height, slant, turn, 0, 0};
+    }
+
+    /** What a tick makes of it. */
+    long[] tick(int[] card, int weight, long[] air) {
+        long a = air[2];
+        long side = air[4];
+        long down = air[5];
+        long cosine = sine((a + 9) % 36);
+        long lifted = down * sine(a) / 1000;
+        long newSide = side + lifted * laws[0] / 32 - side * laws[1] / 64 + (laws[5] - 32) / 4;
+        long brake = laws[1] + laws[2] * Math.abs(cosine) / 1000;
+        long newDown = down + weight - down * brake / 64;
+        if (card[0] == 5) {
+            newDown = newDown / 2;
+        }
+        side = held(newSide, 9999);
+        down = held(newDown, 9999);
+        long t = held(turnOf(card, air[3], a, side * cosine / 1000), 9);
+        return new long[] {air[0] + side / 8, air[1] - down / 8, ((a + t) % 36 + 36) % 36, t, side, down};
+    }
+
     Way way(int[] card, int weight, int height, int slant, int turn) {
         Way w = new Way();
         w.firstSlant = slant;
-        long across = 0;
-        long high = height;
-        long a = slant;
-        long t = turn;
-        long side = 0;
-        long down = 0;
+        long[] air = letGo(height, slant, turn);
         for (int i = 0; i < 400 && !w.landed; i++) {
-            long cosine = sine((a + 9) % 36);
-            long lifted = down * sine(a) / 1000;
-            long newSide = side + lifted * laws[0] / 32 - side * laws[1] / 64 + (laws[5] - 32) / 4;
-            long brake = laws[1] + laws[2] * Math.abs(cosine) / 1000;
-            long newDown = down + weight - down * brake / 64;
-            if (card[0] == 5) {
-                newDown = newDown / 2;
-            }
-            side = held(newSide, 9999);
-            down = held(newDown, 9999);
-            t = held(turnOf(card, t, a, side * cosine / 1000), 9);
-            a = ((a + t) % 36 + 36) % 36;
-            across = across + side / 8;
-            high = high - down / 8;
-            w.landed = high <= 0;
-            w.ticks.add(new long[] {across, high, a, t});
+            air = tick(card, weight, air);
+            w.landed = air[1] <= 0;
+            w.ticks.add(air);
         }
         return w;
     }
